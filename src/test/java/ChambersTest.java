@@ -11,6 +11,8 @@ public final class ChambersTest {
         wall();
         tooLong();
         tooGreat();
+        greatBehindTheWay();
+        greatFormOfAPart();
         Due.end();
     }
 
@@ -149,9 +151,30 @@ public final class ChambersTest {
         Due.is("wall(3, 0, -1, 0)", x.wall(3, 0, -1, 0), BAD);
         Due.is("wall(3, 0, 0, 3)", x.wall(3, 0, 0, 3), BAD);
         Due.is("words behind GREAT", Due.read(x, 1) + "," + Due.read(x, 2), "0,1");
-        // The way is short, but a's word itself goes too far.
-        Due.write(x, 4, Due.times("012", 15));
-        Due.write(x, 5, Due.times("012", 15) + "0");
-        Due.is("way(4, 5, 6)", x.way(4, 5, 6), -4);
+    }
+
+    /** The way is short, but what a's word does to its first mirror goes too far. */
+    private static void greatBehindTheWay() {
+        MirrorBench x = Due.bench(4, Due.meet(1, 0, 1, 3), Due.meet(2, 0, 1, 2), Due.meet(2, 1, 1, 4), Due.meet(3, 0, 1, 4),
+            Due.meet(3, 1, 2, 2), Due.meet(3, 2, 1, 2));
+        String a = "0212013333201202320321313201333000310310323";
+        Due.write(x, 0, a);
+        Due.write(x, 1, a + "3");
+        Due.is("way(0, 1, 2)", x.way(0, 1, 2), 1);
+        Due.is("word of way(0, 1, 2)", Due.read(x, 2), "3");
+        Due.is("wall(0, 1, 0, 0)", x.wall(0, 1, 0, 0), GREAT);
+        Due.is("wall(0, 1, 1, 0)", x.wall(0, 1, 1, 0), BAD);
+    }
+
+    /** SHORT and the parts go well, but a turn for a FORM of them is GREAT. */
+    private static void greatFormOfAPart() {
+        MirrorBench x = Due.bench(4, Due.meet(1, 0, 3, 1), Due.meet(2, 0, 1, 3), Due.meet(2, 1, 3, 1), Due.meet(3, 0, 1, 3),
+            Due.meet(3, 1, 1, 2), Due.meet(3, 2, 1, 1));
+        Due.write(x, 0, "10031202300102101212031012100122021213213320001");
+        Due.write(x, 1, "1");
+        Due.write(x, 2, "2");
+        Due.is("shorten(0, 3)", x.shorten(0, 3) > 0 ? 1 : 0, 1);
+        Due.is("parts(0, 0, 1, 2)", x.parts(0, 0, 1, 2), -4);
+        Due.is("words behind GREAT", Due.read(x, 1) + "," + Due.read(x, 2), "1,2");
     }
 }

@@ -83,6 +83,12 @@ public final class RootsTest {
         Due.is("at most 400", all <= 400 ? 1 : 0, 1);
         Due.is("roots(41)", x.roots(41), -1);
         Due.is("ends()", x.ends(), -2);
+        for (int i = 0; i < 6; i++) {
+            for (int j = 0; j < i; j++) x.meet(i, j, 0, 0);
+        }
+        Due.is("roots(40) of another set", x.roots(40), 0);
+        Due.is("roots(1) of another set", x.roots(1), 6);
+        Due.is("ends() of another set", x.ends(), 6);
     }
 
     private static void rootsFollowTheSet() {
@@ -194,6 +200,10 @@ public final class RootsTest {
         Due.is("word of longest", Due.read(x, 5), "010210");
         Due.is("longest(8)", x.longest(8), -1);
         Due.is("longest(-1)", x.longest(-1), -1);
+        Due.write(x, 1, "21");
+        Due.is("form(1, 1)", x.form(1, 1), 2);
+        Due.is("longest(5) behind form", x.longest(5), 6);
+        Due.is("word of longest behind form", Due.read(x, 5), "010210");
         MirrorBench y = with(line(3), 1, 2, 2, 1);
         Due.is("longest(5)", y.longest(5), 9);
         Due.is("word of longest", Due.read(y, 5), "010210212");
@@ -242,6 +252,12 @@ public final class RootsTest {
         Due.is("next(12, 0, 0)", x.next(12, 0, 0), -1);
         Due.is("next(3, 149, 0)", x.next(3, 149, 0), 3);
         Due.is("word of next(3, 149, 0)", Due.read(x, 0), "545");
+        x.less();
+        x.less();
+        x.less();
+        Due.is("forms(4) of a lesser set", x.forms(4), 24);
+        Due.is("next(4, 23, 0) of a lesser set", x.next(4, 23, 0), 4);
+        Due.is("word of next(4, 23, 0)", Due.read(x, 0), "2121");
         // In a set that ENDS lesser ones come again behind a FULL length, but FULL it stays.
         MirrorBench y = with(Due.bench(6), 1, 0, 1, 2, 4, 2, 1, 1, 4, 3, 1, 1, 5, 2, 1, 2);
         int[] of = {1, 6, 19, 44, 83, 134, 192, 250, 300, -3, -3, -3, -3};
@@ -274,6 +290,7 @@ public final class RootsTest {
             for (java.util.List<String> row : rows) all += row.size();
             Due.is("roots of the model", all, alls[n]);
             MirrorBench x = m.bench();
+            Due.is("root(399, 0) is there", x.root(399, 0) >= 0 ? 1 : 0, all == 400 ? 1 : 0);
             int last = rows.get(heights[n]).size();
             Due.is("roots(" + heights[n] + ")", x.roots(heights[n]), all == 400 ? last : -3);
             Due.is("roots(" + (heights[n] - 1) + ")", x.roots(heights[n] - 1), rows.get(heights[n] - 1).size());

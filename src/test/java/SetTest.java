@@ -74,6 +74,8 @@ public final class SetTest {
         Due.is("meet(-1, 0, 1, 1)", x.meet(-1, 0, 1, 1), -1);
         Due.is("meet(0, -1, 1, 1)", x.meet(0, -1, 1, 1), -1);
         Due.is("meet(0, 1, 65536, 65536)", x.meet(0, 1, 65536, 65536), -1);
+        Due.is("meet(0, 1, 1 << 30, 4)", x.meet(0, 1, 1 << 30, 4), -1);
+        Due.is("meet(0, 1, 4, 1 << 30)", x.meet(0, 1, 4, 1 << 30), -1);
         Due.is("meet(0, 1, MAX, MAX)", x.meet(0, 1, MAX, MAX), -1);
         Due.is("meet(0, 1, -1, -1)", x.meet(0, 1, -1, -1), -1);
         Due.is("meet(0, 1, MIN, MIN)", x.meet(0, 1, MIN, MIN), -1);
@@ -81,13 +83,15 @@ public final class SetTest {
     }
 
     private static void less() {
-        MirrorBench x = Due.bench(3, Due.meet(0, 1, 1, 2), Due.meet(1, 2, 3, 1));
+        MirrorBench x = Due.bench(3, Due.meet(0, 1, 1, 2), Due.meet(1, 2, 3, 1), Due.meet(0, 2, 2, 2));
         Due.is("less()", x.less(), 2);
         Due.is("told(1, 1, 2)", x.told(1, 1, 2), -1);
         Due.is("told(1, 0, 1)", x.told(1, 0, 1), 1);
         Due.is("mirror(2)", x.mirror(2), 2);
         Due.is("told(1, 1, 2)", x.told(1, 1, 2), 0);
         Due.is("told(1, 2, 1)", x.told(1, 2, 1), 0);
+        Due.is("told(1, 0, 2)", x.told(1, 0, 2), 0);
+        Due.is("told(1, 2, 0)", x.told(1, 2, 0), 0);
         Due.is("told(0, 2, 0)", x.told(0, 2, 0), 2);
         Due.is("less()", x.less(), 2);
         Due.is("less()", x.less(), 1);

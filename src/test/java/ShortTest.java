@@ -13,6 +13,8 @@ public final class ShortTest {
         withoutMirrors();
         tooGreat();
         greatLine();
+        justGreat();
+        orderJustGreat();
         Due.end();
     }
 
@@ -224,5 +226,34 @@ public final class ShortTest {
             }
             Due.is("shorten(0, 1) of " + word, x.shorten(0, 1), want);
         }
+    }
+
+    /** A number of just 10^12 is not GREAT, on either side of 0: 625000000 times 4, and that times 20 times 20. */
+    private static void justGreat() {
+        MirrorBench x = Due.bench(6, Due.meet(1, 0, 1, 4), Due.meet(2, 0, 1, 1), Due.meet(2, 1, 1, 3), Due.meet(3, 0, 4, 1),
+            Due.meet(3, 1, 1, 4), Due.meet(3, 2, 4, 1), Due.meet(4, 0, 4, 1), Due.meet(4, 5, 2, 2));
+        String first = "0201020312120130312010302";
+        String word = "4" + Due.times("54", 19) + first;
+        Due.write(x, 0, first);
+        Due.is("does of the first part", x.does(0, 0, 0), 625000000L);
+        Due.write(x, 0, word);
+        Due.is("does of just 10^12", x.does(0, 0, 4), 1000000000000L);
+        Due.write(x, 1, word + "0");
+        Due.is("does of just 10^12 below 0", x.does(1, 0, 4), -1000000000000L);
+        Due.write(x, 0, "5" + word);
+        Due.is("does of more", x.does(0, 0, 4), GREAT);
+        Due.write(x, 1, "5" + word + "0");
+        Due.is("does of more below 0", x.does(1, 0, 4), GREAT);
+    }
+
+    /** Thirty times are looked through: what is GREAT at the 31st is not found. */
+    private static void orderJustGreat() {
+        MirrorBench x = Due.bench(5, Due.meet(1, 0, 1, 1), Due.meet(2, 0, 1, 2), Due.meet(2, 1, 4, 1), Due.meet(3, 0, 1, 2),
+            Due.meet(4, 1, 3, 1));
+        Due.write(x, 0, "4103");
+        Due.is("order of a word GREAT at the 31st time", x.order(0), -2);
+        MirrorBench y = Due.bench(4, Due.meet(2, 0, 1, 1), Due.meet(2, 1, 1, 2), Due.meet(3, 2, 2, 1));
+        Due.write(y, 0, "1320");
+        Due.is("order of a word GREAT at the 30th time", y.order(0), -4);
     }
 }

@@ -53,6 +53,9 @@ public final class WordsTest {
         Due.is("word(7, 2, 2, 9, 0)", x.word(7, 2, 2, 9, 0), 0);
         Due.is("at(7, -1)", x.at(7, -1), 0);
         Due.is("word(7, 2, 2, 40, 0)", x.word(7, 2, 2, 40, 0), 0);
+        // Of no items none is out of its row.
+        Due.is("word(7, 2, 2, 41, 0)", x.word(7, 2, 2, 41, 0), 0);
+        Due.is("word(7, 2, 2, -1, 0)", x.word(7, 2, 2, -1, 0), 0);
         x.item(1, 1, 2, 6);
         x.item(1, 1, 5, -1);
         x.item(2, 2, 2, 1L << 32);
@@ -153,6 +156,9 @@ public final class WordsTest {
         Due.is("without(0, 1)", x.without(0, 1), 3);
         Due.is("word of without(0, 1)", Due.read(x, 1), "022");
         Due.is("word behind without(0, 1)", Due.read(x, 0), "1012211");
+        Due.write(x, 2, "0112");
+        Due.is("without(2, 2)", x.without(2, 2), 2);
+        Due.is("word of without(2, 2)", Due.read(x, 2), "02");
         x.kind(0, 2);
         Due.is("without(0, 0)", x.without(0, 0), 2);
         Due.is("word of without(0, 0)", Due.read(x, 0), "22");
@@ -206,6 +212,12 @@ public final class WordsTest {
         Due.is("change(1, 0)", x.change(1, 0), 4);
         Due.is("word of change(1, 0)", Due.read(x, 1), "2121");
         Due.is("change(1, 1)", x.change(1, 1), -2);
+        Due.write(x, 1, "21");
+        Due.is("change(1, 0) of a word that was longer", x.change(1, 0), -2);
+        Due.write(x, 1, "51212");
+        x.clear(1);
+        Due.write(x, 1, "512");
+        Due.is("change(1, 1) of a word that was longer", x.change(1, 1), -2);
         Due.write(x, 1, "2122");
         Due.is("change(1, 0)", x.change(1, 0), -2);
         Due.write(x, 1, "2112");
