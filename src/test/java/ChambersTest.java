@@ -66,6 +66,11 @@ public final class ChambersTest {
         x.kind(1, 2);
         part(x, "010210", -1, "", "010210");
         part(x, "010210", 3, "010", "210");
+        MirrorBench six = Due.bench(6, Due.meet(4, 5, 1, 1));
+        six.kind(1, 1);
+        six.kind(5, 2);
+        part(six, "5410", -1, "0", "154");
+        part(six, "45410", -1, "04", "154");
     }
 
     private static void partsRefused() {
