@@ -118,7 +118,7 @@ public final class MirrorBench {
         int found = row.find(lane);
         if (found != 0) return found;
         if (n < 0) return SIZE;
-        if (n > 0 && !row.hasItems(from, n)) return INDEX;
+        if (!row.hasItems(from, n)) return INDEX;
         made.length = 0;
         for (int k = 0; k < n; k++) {
             long item = row.items[from + k];
@@ -876,6 +876,7 @@ public final class MirrorBench {
             return lane == wanted ? 0 : CAST;
         }
 
+        /** Also n = 0 items are from a place of the row, its end at the furthest. */
         boolean hasItems(int from, int n) {
             return from >= 0 && n >= 0 && from <= length && n <= length - from;
         }

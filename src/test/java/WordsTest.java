@@ -7,6 +7,8 @@ public final class WordsTest {
         put();
         word();
         wordFinds();
+        wordOfNone();
+        wordFromAnyPlace();
         at();
         times();
         back();
@@ -53,9 +55,6 @@ public final class WordsTest {
         Due.is("word(7, 2, 2, 9, 0)", x.word(7, 2, 2, 9, 0), 0);
         Due.is("at(7, -1)", x.at(7, -1), 0);
         Due.is("word(7, 2, 2, 40, 0)", x.word(7, 2, 2, 40, 0), 0);
-        // Of no items none is out of its row.
-        Due.is("word(7, 2, 2, 41, 0)", x.word(7, 2, 2, 41, 0), 0);
-        Due.is("word(7, 2, 2, -1, 0)", x.word(7, 2, 2, -1, 0), 0);
         x.item(1, 1, 2, 6);
         x.item(1, 1, 5, -1);
         x.item(2, 2, 2, 1L << 32);
@@ -94,6 +93,53 @@ public final class WordsTest {
         Due.is("word(0, 0, 1, 0, 3)", x.word(0, 0, 1, 0, 3), -1);
         Due.is("word behind refused calls", Due.read(x, 0), "0");
         Due.is("word(0, 0, 1, 2, 1)", x.word(0, 0, 1, 2, 1), 1);
+    }
+
+    /** No items, too, are taken from a place of the row, its end at the furthest. */
+    private static void wordOfNone() {
+        MirrorBench x = Due.bench(2);
+        for (int lane = 0; lane < 3; lane++) {
+            for (int items : new int[] {0, 1, 2, 39, 40}) {
+                x.leaf(lane, lane, items);
+                for (int from = -2; from <= 43; from++) {
+                    boolean there = from >= 0 && from <= items;
+                    Due.write(x, 4, "10");
+                    Due.is("word(4, lane, lane, " + from + ", 0) of " + items, x.word(4, lane, lane, from, 0), there ? 0 : -13);
+                    Due.is("word from " + from + " of " + items, Due.read(x, 4), there ? "" : "10");
+                }
+                Due.is("word(4, lane, lane, MAX, 0)", x.word(4, lane, lane, MAX, 0), -13);
+                Due.is("word(4, lane, lane, MIN, 0)", x.word(4, lane, lane, MIN, 0), -13);
+                Due.is("word(4, lane, lane, MAX, -1)", x.word(4, lane, lane, MAX, -1), -14);
+                Due.is("word(8, lane, lane, MAX, 0)", x.word(8, lane, lane, MAX, 0), -1);
+                Due.is("word(4, lane, another, MAX, 0)", x.word(4, lane, (lane + 1) % 3, MAX, 0), -12);
+            }
+            x.drop(lane);
+            Due.is("word(4, lane, lane, MAX, 0)", x.word(4, lane, lane, MAX, 0), -11);
+        }
+        MirrorBench none = new MirrorBench();
+        none.leaf(0, 0, 3);
+        Due.is("word(0, 0, 0, 3, 0) without mirrors", none.word(0, 0, 0, 3, 0), 0);
+        Due.is("word(0, 0, 0, 4, 0) without mirrors", none.word(0, 0, 0, 4, 0), -13);
+        Due.is("word(0, 0, 0, 2, 1) without mirrors", none.word(0, 0, 0, 2, 1), -1);
+        Due.is("word(0, 0, 0, 3, 1) without mirrors", none.word(0, 0, 0, 3, 1), -13);
+    }
+
+    /** Each place and number of items of a row of five; the one at 3 is no mirror. */
+    private static void wordFromAnyPlace() {
+        MirrorBench x = Due.bench(3);
+        int[] items = {2, 0, 1, 7, 2};
+        x.leaf(2, 0, 5);
+        for (int i = 0; i < 5; i++) x.item(2, 0, i, items[i]);
+        for (int from = -3; from <= 8; from++) {
+            for (int n = -3; n <= 8; n++) {
+                StringBuilder made = new StringBuilder();
+                for (int k = from; k < from + n && k >= 0 && k < 5; k++) made.append(items[k]);
+                long due = n < 0 ? -14 : from < 0 || from + n > 5 ? -13 : made.indexOf("7") >= 0 ? -1 : n;
+                Due.write(x, 6, "012");
+                Due.is("word(6, 2, 0, " + from + ", " + n + ")", x.word(6, 2, 0, from, n), due);
+                Due.is("word of " + n + " from " + from, Due.read(x, 6), due < 0 ? "012" : made.toString());
+            }
+        }
     }
 
     private static void at() {
