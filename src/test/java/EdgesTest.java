@@ -369,6 +369,9 @@ public final class EdgesTest {
                 Due.is("word of change, of 100", Due.read(x, 0), Due.times("2", 100 - w[0].length()) + w[1]);
             }
             if (many == 2) continue;
+            Due.write(x, 0, turns);
+            Due.write(x, 0, turns.substring(0, many - 1));
+            Due.is("change(0, 0) of one less, where a longer word was", x.change(0, 0), -2);
             for (String end : new String[] {"", "2", turns.substring(many - 2, many - 1) + turns.substring(many - 2, many - 1)}) {
                 Due.write(x, 0, turns.substring(0, many - 1) + end);
                 Due.is("change(0, 0) of one less and " + end, x.change(0, 0), -2);

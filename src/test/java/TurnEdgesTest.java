@@ -14,11 +14,13 @@ public final class TurnEdgesTest {
         doesOfNone();
         turnedAsTold();
         justGreatOrNot();
+        shortButGreatBehind();
         ordersOfOneToThirty();
         belowNoneAndItself();
         heightsOfOneToForty();
         rootsInOrder();
         setsThatJustEnd();
+        setsOfManyRoots();
         longestOfAll();
         formsOfNoneToTwelve();
         setsOfNoneAndOfAll();
@@ -225,6 +227,47 @@ public final class TurnEdgesTest {
         Due.is("wall(2, 3, 0, 5)", x.wall(2, 3, 0, 5), 0);
     }
 
+    /** 18, 19, 20, 23, 31: SHORT of a WORD goes well, but what is asked of it TURNS what is GREAT. */
+    private static void shortButGreatBehind() {
+        int[][] numbers = {{0, 4, 2, 1, 1, 1}, {1, 0, 2, 1, 1, 0}, {2, 2, 0, 0, 1, 1}, {2, 3, 0, 0, 2, 1}, {3, 3, 1, 2, 0, 1},
+            {1, 0, 4, 4, 1, 0}};
+        MirrorBench x = new Model(6, numbers).bench();
+        String word = "543434343434343431202020120212120120202120";
+        Due.write(x, 0, word);
+        Due.write(x, 1, Model.inverted(word));
+        Due.write(x, 2, "1");
+        Due.write(x, 3, "0");
+        Due.write(x, 4, "4");
+        for (int slot = 0; slot < 2; slot++) {
+            Due.is("shorten(slot, 7)", x.shorten(slot, 7), 42);
+            Due.is("form(slot, 7)", x.form(slot, 7), 42);
+            Due.is("downs(slot, false)", x.downs(slot, false), slot == 0 ? -4 : 32);
+            Due.is("downs(slot, true)", x.downs(slot, true), slot == 0 ? 32 : -4);
+        }
+        Due.is("below(0, 2)", x.below(0, 2), -4);
+        Due.is("below(0, 4)", x.below(0, 4), -4);
+        Due.is("below(0, 3)", x.below(0, 3), 0);
+        Due.is("below(2, 0)", x.below(2, 0), 1);
+        Due.is("parts(1, 2, 5, 6)", x.parts(1, 2, 5, 6), -4);
+        Due.is("parts(1, 16, 5, 6)", x.parts(1, 16, 5, 6), -4);
+        Due.is("at(5, -1)", x.at(5, -1), 0);
+        Due.is("parts(1, 1, 5, 6)", x.parts(1, 1, 5, 6), 1);
+        Due.is("parts(1, 4, 5, 6)", x.parts(1, 4, 5, 6), 0);
+        int[][] more = {{0, 3, 1, 1, 1, 1}, {1, 0, 4, 0, 1, 1}, {3, 1, 0, 0, 1, 1}, {2, 0, 0, 0, 2, 1}, {3, 2, 2, 2, 0, 1},
+            {4, 3, 3, 4, 4, 0}};
+        MirrorBench y = new Model(6, more).bench();
+        Due.write(y, 0, "1210202021021010210121203434343434345");
+        Due.is("shorten(0, 7)", y.shorten(0, 7), 37);
+        Due.is("form(0, 7)", y.form(0, 7), -4);
+        Due.is("same(0, 1)", y.same(0, 1), -4);
+        Due.is("same(1, 0)", y.same(1, 0), -4);
+        Due.is("downs(0, false)", y.downs(0, false), 32);
+        Due.is("downs(0, true)", y.downs(0, true), -4);
+        Due.is("parts(0, 0, 1, 2)", y.parts(0, 0, 1, 2), -4);
+        Due.is("way(1, 0, 2)", y.way(1, 0, 2), -4);
+        Due.is("wall(1, 0, 0, 0)", y.wall(1, 0, 0, 0), -10000000000004L);
+    }
+
     /** 22: 1 without MIRRORS and of the empty WORD; each angle; 30, the greatest that there is; of a WORD of 100. */
     private static void ordersOfOneToThirty() {
         Due.is("order(0) without mirrors", new MirrorBench().order(0), 1);
@@ -354,6 +397,23 @@ public final class TurnEdgesTest {
         }
     }
 
+    /** 26, 27, 28: the most roots of a set that ENDS, and a set that has more than 400 soon. */
+    private static void setsOfManyRoots() {
+        MirrorBench x = line(6);
+        x.meet(0, 1, 2, 1);
+        Due.is("ends() of six with a 4 at the head", x.ends(), 36);
+        Due.is("count() of it", x.count(), 46080);
+        Due.is("root(36, 0)", x.root(36, 0), -1);
+        MirrorBench y = Due.bench(6);
+        for (int i = 0; i < 6; i++) {
+            for (int j = 0; j < i; j++) y.meet(i, j, 1, 1);
+        }
+        Due.is("roots(11), with which there are more than 400", y.roots(11), -3);
+        Due.is("ends() of six that all meet at 3", y.ends(), -2);
+        Due.is("count() of it", y.count(), -2);
+        Due.is("longest(7) of it", y.longest(7), -2);
+    }
+
     /** 28: 36 MIRRORS are the most; the SLOT had another WORD. */
     private static void longestOfAll() {
         MirrorBench x = line(6);
@@ -433,7 +493,9 @@ public final class TurnEdgesTest {
             StringBuilder u = new StringBuilder();
             for (int i = 0; i < 6; i++) (((bits >> i & 1) == 1) ? v : u).append(i);
             part(six, "531024", bits, v.toString(), u.toString());
+            part(six, "531024", bits | 64, v.toString(), u.toString());
             part(six, "531024", bits | 1 << 20, v.toString(), u.toString());
+            if (bits != 63) part(six, "531024", bits - 64, v.toString(), u.toString());
         }
         MirrorBench none = new MirrorBench();
         Due.is("parts(0, -1, 1, 2) without mirrors", none.parts(0, -1, 1, 2), 0);
