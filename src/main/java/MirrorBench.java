@@ -623,7 +623,10 @@ public final class MirrorBench {
             return moveDowns(rest, ALL_BITS, to);
         }
 
-        /** The DOWNS ahead of a short word in a set of mirrors go from it, each time the least, behind another word; false: GREAT. */
+        /**
+         * The DOWNS ahead of a short word in a set of mirrors go from it, each time the least, behind another word;
+         * false: GREAT.
+         */
         boolean moveDowns(Word from, int bits, Word to) {
             for (int left = from.length; left > 0; left--) {
                 int down = takeLeastDown(from, bits);
@@ -699,7 +702,7 @@ public final class MirrorBench {
             return unpack(keys[i], j);
         }
 
-        /** How many roots the set has, if it ENDS: if no root of a height up to the highest such one goes up above it. */
+        /** How many roots the set has, if it ENDS: if no root up to the highest such height goes up above it. */
         int countAll() {
             if (!reaches(ENDING_HEIGHT + 1)) return NOT;
             int all = firsts[ENDING_HEIGHT + 1];
@@ -711,7 +714,10 @@ public final class MirrorBench {
             return all;
         }
 
-        /** How many words a set has that ENDS: each fall in the number of roots by height, from h to h + 1, is a factor h + 1. */
+        /**
+         * How many words a set has that ENDS: each fall in the number of roots by height, from h to h + 1, is a
+         * factor h + 1.
+         */
         long countWords() {
             long words = 1;
             for (int h = 1; h <= ENDING_HEIGHT; h++) {
@@ -837,7 +843,10 @@ public final class MirrorBench {
             length = n;
         }
 
-        /** Whether s behind a form makes a form: s is no DOWN, and behind no end of it is the same as a lesser mirror ahead. */
+        /**
+         * Whether s behind a form makes a form: s is no DOWN, and behind no end of it is the same as a lesser mirror
+         * ahead.
+         */
         private boolean goesOn(int n, int i, int s) {
             setOwn(root, s);
             int form = i;
